@@ -297,7 +297,7 @@ public final class EdgeOfCard {
 
     private boolean isAsSeen() {
         for (int i = 0; i < seen; i++) {
-            if (filling.lineOf[seenPieces[i]] != seenLines[i]) {
+            if (filling.lineOfPiece(seenPieces[i]) != seenLines[i]) {
                 return false;
             }
         }
@@ -808,6 +808,11 @@ public final class EdgeOfCard {
                 }
             }
             return true;
+        }
+
+        /** Behind goesOn: where it put a PIECE. */
+        int lineOfPiece(int w) {
+            return told.hasPiece(w) ? lineOf[w] : NONE;
         }
 
         /** How many PIECES from the first on go ON, if so much of LINE 0 is lost. */

@@ -159,6 +159,15 @@ public final class PromisesTest {
         due("the text stays, of '" + text + "'", x.clear(), text.length());
     }
 
+    /** What was typed ahead of clear() is gone, though it was longer. */
+    private static void faultBehindOther(String other, String text, int place) {
+        EdgeOfCard x = new EdgeOfCard();
+        typeAll(x, other);
+        x.clear();
+        typeAll(x, text);
+        due("FAULT of '" + text + "' behind '" + other + "'", x.card(), -10 - place);
+    }
+
     private static void cardFaults() {
         String word = "w1 0 99 0 0;";
         // what can't stand there
@@ -170,6 +179,7 @@ public final class PromisesTest {
         fault("a", 0);
         fault("l;", 1);
         fault("l l;", 2);
+        fault("w1 0 c 0 0;", 5);
         fault("l5 5;", 3);
         fault("l5w;", 2);
         fault("l5;5", 3);
@@ -209,6 +219,8 @@ public final class PromisesTest {
         fault("w1 10 99 0 0;", 3);
         fault("w1 0 0 0 0;", 5);
         fault("w1 0 98 0 0;", 5);
+        fault("w1 0 100 0 0;", 5);
+        fault("w1 0 099 0 0;", 5);
         fault(word + "w1 0 1 0 0;", 17);
         fault("w1 0 99 13 0;", 8);
         fault("w1 0 99 0 1;", 10);
@@ -231,6 +243,11 @@ public final class PromisesTest {
         fault("l1;z", 4);
         fault("l1;z1", 5);
         fault("l" + times(" ", 199), 200);
+        fault(times(" ", 199) + "l", 200);
+        fault(times(" ", 198) + "l5", 200);
+        faultBehindOther("l 12;", "l 1", 3);
+        faultBehindOther("ll5;", "l", 1);
+        faultBehindOther("l5;", "l5", 2);
         // the first of several
         fault("l 61; *", 2);
         fault("l * 61;", 2);
@@ -357,6 +374,7 @@ public final class PromisesTest {
         due("with the blank", x.signs(), 0);
         due("next", x.now(0), 2);
         due("it has none", x.signs(), STATE);
+        due("it has none, though there is room", read("l 30;w1 0 99 0 0;", 2).signs(), STATE);
         EdgeOfCard y = read("l 30;w1 0 99 7 0;", 2);
         due("does not go", y.signs(), STATE);
         y.smaller(4);
@@ -478,6 +496,10 @@ public final class PromisesTest {
         y.turnsOver();
         for (int i = 11; i >= 0; i--) {
             due("undo", y.undo(), i);
+            due("line behind undo", y.now(1), Math.max(0, i - 8));
+            due("omitted behind undo", y.now(4), (1 << Math.min(10, i + 2)) - 1);
+            due("left behind undo", y.now(2), 50);
+            due("size behind undo", y.now(3), 5);
         }
         due("no more", y.undo(), STATE);
         due("two of ten can't be taken back", y.now(4), 3);
@@ -599,6 +621,7 @@ public final class PromisesTest {
         EdgeOfCard y = read("l11;w4 3 99 0 0;w5 3 99 0 0;w5 9 1 0 0;w4 3 99 0 0;", 5);
         due("one that needs another", y.kept(1, 1), 6);
         due("worth", y.kept(1, 0), 12);
+        due("worth 1 is more than nothing", read("l9;w9 1 99 0 0;", 2).kept(1, 1), 1);
         due("worth nothing, so left out", read("l9;w1 0 99 0 0;", 2).kept(1, 1), 0);
         due("no lines", read("w1 1 99 0 0;", 1).kept(1, 1), 0);
     }
@@ -615,6 +638,8 @@ public final class PromisesTest {
         due("four", x.telegram(4, 1), 15);
         due("all", x.telegram(5, 1), 31);
         due("more than there are", x.telegram(10, 0), 19);
+        due("worth 1 is more than nothing", read("w9 1 99 0 0;", 1).telegram(1, 1), 1);
+        due("worth nothing, so left out", read("w9 0 99 0 0;", 1).telegram(1, 1), 0);
         due("m 11", x.telegram(11, 0), BAD);
         due("m -1", x.telegram(-1, 0), BAD);
         due("what 2", x.telegram(1, 2), BAD);
