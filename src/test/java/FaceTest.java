@@ -25,6 +25,16 @@ public final class FaceTest {
         "\\b(throw|throws|try|catch|synchronized|assert|import|package|volatile|transient)\\b|->|::|Exact\\b"
             + "|static \\{|[^\\x00-\\x7f]");
 
+    /** What stands ahead of a dot and begins with a capital: the library, by rule 4 (the class needs no more of it). */
+    private static final Pattern LIBRARY = Pattern.compile("\\b([A-Z][a-z]\\w*\\.\\w+)");
+    private static final Set<String> USED = new TreeSet<>(Arrays.asList(
+        "Integer.bitCount", "Math.max", "Math.min", "System.arraycopy"));
+    /** A method's or constructor's head, at the depth of the class or of one inside it. */
+    private static final Pattern HEAD = Pattern.compile("^( {4}| {8})(\\w+ )*\\w+\\(.*\\{$");
+    private static final int LONGEST_METHOD = 60;
+    private static final int MOST_PARAMETERS = 7;
+    private static final int MOST_FIELDS = 20;
+
     private static int wrong = 0;
 
     private static void check(boolean holds, String what) {
@@ -39,6 +49,8 @@ public final class FaceTest {
         fields();
         classes();
         source();
+        library();
+        lengths();
         System.out.println("FaceTest: " + wrong + " wrong");
         if (wrong != 0) {
             System.exit(1);
@@ -92,22 +104,57 @@ public final class FaceTest {
     private static void classes() {
         Class<?>[] inside = EdgeOfCard.class.getDeclaredClasses();
         check(inside.length <= 12, "some twelve classes");
+        sizes(EdgeOfCard.class);
         for (Class<?> one : inside) {
+            sizes(one);
             int modifiers = one.getModifiers();
             check(Modifier.isStatic(modifiers), one + " is static");
             check(!Modifier.isPublic(modifiers) && !Modifier.isProtected(modifiers), one + " is not of the face");
-            long states = Arrays.stream(one.getDeclaredFields())
-                .filter(field -> !Modifier.isStatic(field.getModifiers())).count();
-            check(states <= 20, one + " has some twenty fields");
         }
     }
 
-    private static void source() throws IOException {
+    private static void sizes(Class<?> one) {
+        long states = Arrays.stream(one.getDeclaredFields())
+            .filter(field -> !Modifier.isStatic(field.getModifiers())).count();
+        check(states <= MOST_FIELDS, one + " has some twenty fields");
+        for (Method method : one.getDeclaredMethods()) {
+            check(method.getParameterCount() <= MOST_PARAMETERS, method + " takes at most seven parameters");
+        }
+    }
+
+    private static String code() throws IOException {
         String source = Files.readString(Path.of("src/main/java/EdgeOfCard.java"));
-        String code = source.replaceAll("(?s)/\\*.*?\\*/", "").replaceAll("//[^\n]*", "");
-        Matcher found = FORBIDDEN.matcher(code);
+        return source.replaceAll("(?s)/\\*.*?\\*/", "").replaceAll("//[^\n]*", "");
+    }
+
+    private static void source() throws IOException {
+        Matcher found = FORBIDDEN.matcher(code());
         while (found.find()) {
             check(false, "no '" + found.group() + "' in the source");
         }
+    }
+
+    private static void library() throws IOException {
+        Matcher found = LIBRARY.matcher(code());
+        while (found.find()) {
+            check(USED.contains(found.group(1)), found.group(1) + " is of the library that the class may use");
+        }
+    }
+
+    private static void lengths() throws IOException {
+        String[] lines = code().split("\n");
+        int methods = 0;
+        for (int i = 0; i < lines.length; i++) {
+            Matcher head = HEAD.matcher(lines[i]);
+            if (head.matches()) {
+                methods++;
+                int end = i;
+                while (end < lines.length && !lines[end].equals(head.group(1) + "}")) {
+                    end++;
+                }
+                check(end - i < LONGEST_METHOD, lines[i].trim() + " is short");
+            }
+        }
+        check(methods > METHODS.size(), "the methods were found: " + methods);
     }
 }
